@@ -893,14 +893,17 @@ public final class StyleRows {
             return NONE;
         }
 
-        /** The last is the last in the order of EVENTS; where TIME runs back, an earlier one may end behind it. */
+        /** All are looked at: where TIME runs back, the one that ends last need not be the last in order. */
         int lastEndOf(int note) {
-            for (int i = howMany - 1; i >= 0; i--) {
-                if (rows[NOTE][i] == note) {
-                    return endOf(i);
+            boolean isFound = false;
+            int last = NONE;
+            for (int i = 0; i < howMany; i++) {
+                if (rows[NOTE][i] == note && (!isFound || endOf(i) > last)) {
+                    last = endOf(i);
+                    isFound = true;
                 }
             }
-            return NONE;
+            return last;
         }
     }
 

@@ -357,7 +357,11 @@ final class Model {
             return UNKNOWN;
         }
         List<Event> own = events.stream().filter(e -> e.note == note).toList();
-        return what == 0 ? own.size() : own.isEmpty() ? NONE : what == 1 ? own.get(0).begin : own.get(own.size() - 1).end;
+        if (what == 0) {
+            return own.size();
+        }
+        return what == 1 ? own.stream().mapToInt(Event::begin).min().orElse(NONE)
+            : own.stream().mapToInt(Event::end).max().orElse(NONE);
     }
 
     int count(int what) {

@@ -14,7 +14,8 @@ public final class PerformanceTest {
         turns();
         together();
         bent();
-        lastInOrder();
+        endsLast();
+        endsBelowNone();
         order();
         repeats();
         room();
@@ -259,23 +260,45 @@ public final class PerformanceTest {
         CHECK.due("18 the last of all", rows.span(0, 2), 1);
     }
 
-    /** Where TIME runs back, the last EVENT in order is not the one that ends latest. */
-    private static void lastInOrder() {
-        StyleRows rows = styled("turn 20;");
-        rows.note(0, 20, 60, 60, HELD | TURN);
-        rows.arc(20, 60, -400);
-        rows.perform();
-        CHECK.event(rows, 0, -360, 420, 58, 64, 0, 3, 0);
-        CHECK.event(rows, 1, 20, 1, 60, 64, 0, 3, 0);
-        CHECK.event(rows, 2, 60, 20, 60, 64, 0, 3, 0);
-        rows = styled("lean 20;");
+    /** Where TIME runs back, the EVENT that ends last need not be the last one in order. */
+    private static void endsLast() {
+        StyleRows rows = styled("lean 20;");
         rows.note(0, 20, 60, 60, HELD | LEAN);
         rows.arc(20, 60, -400);
         rows.perform();
         CHECK.event(rows, 0, -360, 440, 60, 64, 0, 0, 0);
         CHECK.event(rows, 1, 20, 1, 62, 48, 0, 1, 0);
-        CHECK.due("18 the first in order", rows.span(0, 1), -360);
-        CHECK.due("18 the last in order", rows.span(0, 2), 21);
+        CHECK.due("18 the first of two begins", rows.span(0, 1), -360);
+        CHECK.due("18 the first in order ends last", rows.span(0, 2), 80);
+        rows = styled("");
+        rows.arc(0, 22, 15);
+        rows.note(0, 1, 30, 15, HELD | TURN);
+        rows.perform();
+        CHECK.event(rows, 0, 3, 20, 15, 64, 0, 3, 0);
+        CHECK.event(rows, 1, 23, 8, 15, 64, 0, 3, 0);
+        CHECK.event(rows, 2, 26, 1, 13, 64, 0, 3, 0);
+        CHECK.due("18 the first of three begins", rows.span(0, 1), 3);
+        CHECK.due("18 one in the middle ends last", rows.span(0, 2), 31);
+    }
+
+    /** An end may stand below 0, where NONE stands too. */
+    private static void endsBelowNone() {
+        StyleRows rows = styled("");
+        rows.arc(0, 100, -400);
+        rows.note(0, 40, 10, 60, HELD);
+        rows.note(0, 9600, 10, 60, HELD);
+        rows.perform();
+        CHECK.event(rows, 0, -344, 1, 60, 64, 0, 0, 0);
+        CHECK.due("18 begins below 0", rows.span(0, 1), -344);
+        CHECK.due("18 ends below 0", rows.span(0, 2), -343);
+        CHECK.due("18 of the other NOTE", rows.span(1, 2), 9610);
+        rows = styled("lean 10;");
+        rows.arc(0, 100, -400);
+        rows.note(0, 30, 45, 60, HELD | LEAN);
+        rows.perform();
+        CHECK.event(rows, 0, -344, 119, 60, 64, 0, 0, 0);
+        CHECK.event(rows, 1, -306, 1, 62, 48, 0, 1, 0);
+        CHECK.due("18 the last of two ends below 0", rows.span(0, 2), -225);
     }
 
     private static void order() {
