@@ -86,17 +86,6 @@ public final class PerformanceTest {
         }
     }
 
-    /** The draws, told once more from the document. */
-    private static int draw(long seed, int note, int n) {
-        long z = seed;
-        for (int i = 0; i <= note; i++) {
-            z += 0x9E3779B97F4A7C15L;
-        }
-        z = (z ^ z >>> 30) * 0xBF58476D1CE4E5B9L;
-        z ^= z >>> 27;
-        return (int) (Long.remainderUnsigned(z >>> 33, 2 * n + 1)) - n;
-    }
-
     private static void draws() {
         long[] seeds = {0, 1, -1, 1234567890123456789L, Long.MIN_VALUE, Long.MAX_VALUE};
         for (long seed : seeds) {
@@ -108,7 +97,7 @@ public final class PerformanceTest {
                 }
                 rows.perform();
                 for (int i = 0; i < 48; i++) {
-                    int want = Math.max(0, (i < 24 ? 50 : 5000) + (n == 0 ? 0 : draw(seed, i, n)));
+                    int want = Math.max(0, (i < 24 ? 50 : 5000) + Draws.of(seed, i, n));
                     CHECK.due("15 ON of note " + i + ", loose " + n, rows.span(i, 1), want);
                 }
             }

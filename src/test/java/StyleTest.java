@@ -1,12 +1,6 @@
 /** Promises 9 to 14. */
 public final class StyleTest {
     private static final Check CHECK = new Check("StyleTest");
-    private static final String[] NAMES = {
-        "short", "plain", "held", "least", "accent", "first", "beat", "trill", "upper", "turn", "lean", "roll", "loose"
-    };
-    private static final int[] WITHOUT = {50, 90, 100, 10, 16, 8, 4, 30, 0, 20, 40, 12, 0};
-    private static final int[] LEAST = {1, 1, 1, 1, 0, 0, 0, 1, 0, 1, 0, 0, 0};
-    private static final int[] MOST = {100, 100, 100, 960, 127, 127, 127, 960, 1, 960, 960, 960, 99};
 
     public static void main(String[] args) {
         feeds();
@@ -68,17 +62,17 @@ public final class StyleTest {
     }
 
     private static void bounds() {
-        for (int i = 0; i < NAMES.length; i++) {
+        for (int i = 0; i < Names.WORDS.length; i++) {
             StyleRows rows = new StyleRows(0);
-            int place = NAMES[i].length() + 1;
-            CHECK.due("13 without " + NAMES[i], rows.value(i % 4, i), WITHOUT[i]);
-            CHECK.due("10 least " + NAMES[i], Texts.read(rows, NAMES[i] + " " + LEAST[i] + ";"), 1);
-            CHECK.due("13 least " + NAMES[i], rows.value(3, i), LEAST[i]);
-            CHECK.due("10 most " + NAMES[i], Texts.read(rows, NAMES[i] + " " + MOST[i] + ";"), 2);
-            CHECK.due("13 most " + NAMES[i], rows.value(0, i), MOST[i]);
-            CHECK.due("10 above " + NAMES[i], Texts.read(rows, NAMES[i] + " " + (MOST[i] + 1) + ";"), -10 - place);
-            if (LEAST[i] > 0) {
-                CHECK.due("10 below " + NAMES[i], Texts.read(rows, NAMES[i] + " " + (LEAST[i] - 1) + ";"), -10 - place);
+            int place = Names.WORDS[i].length() + 1;
+            CHECK.due("13 without " + Names.WORDS[i], rows.value(i % 4, i), Names.WITHOUT[i]);
+            CHECK.due("10 least " + Names.WORDS[i], Texts.read(rows, Names.WORDS[i] + " " + Names.LEAST[i] + ";"), 1);
+            CHECK.due("13 least " + Names.WORDS[i], rows.value(3, i), Names.LEAST[i]);
+            CHECK.due("10 most " + Names.WORDS[i], Texts.read(rows, Names.WORDS[i] + " " + Names.MOST[i] + ";"), 2);
+            CHECK.due("13 most " + Names.WORDS[i], rows.value(0, i), Names.MOST[i]);
+            CHECK.due("10 above " + Names.WORDS[i], Texts.read(rows, Names.WORDS[i] + " " + (Names.MOST[i] + 1) + ";"), -10 - place);
+            if (Names.LEAST[i] > 0) {
+                CHECK.due("10 below " + Names.WORDS[i], Texts.read(rows, Names.WORDS[i] + " " + (Names.LEAST[i] - 1) + ";"), -10 - place);
             }
         }
         CHECK.due("10 voice", read("voice 3 short 1;"), 1);
