@@ -8,6 +8,7 @@ public final class PerformanceEdgesTest {
 
     public static void main(String[] args) {
         performNothing();
+        performFewer();
         shareDownward();
         shareInBounds();
         shortAheadOfHeld();
@@ -55,6 +56,8 @@ public final class PerformanceEdgesTest {
         soundingEdges();
         spanNumbers();
         spanWithoutAny();
+        spanOfMany();
+        spanBelowNought();
         countNumbers();
         countsFull();
         CHECK.end();
@@ -98,6 +101,23 @@ public final class PerformanceEdgesTest {
         CHECK.due("15 a NOTE", rows.note(0, 0, 1, 60, 0), 0);
         CHECK.due("15 one NOTE", rows.perform(), 1);
         CHECK.due("15 once more, in place of those", rows.perform(), 1);
+    }
+
+    /** Fewer EVENTS than before: of those nothing is left. */
+    private static void performFewer() {
+        StyleRows rows = new StyleRows(0);
+        rows.note(0, 1, 90, 60, HELD | LEAN);
+        CHECK.due("15 two", rows.perform(), 2);
+        CHECK.event(rows, 1, 41, 50, 60, 64, 0, 0, 0);
+        rows.mark(0, HELD);
+        CHECK.due("15 one", rows.perform(), 1);
+        CHECK.event(rows, 0, 1, 90, 60, 64, 0, 0, 0);
+        CHECK.due("16 no second any more", rows.event(1, 0), StyleRows.UNKNOWN);
+        CHECK.due("17 one sounds", rows.sounding(50), 1);
+        CHECK.due("18 one is its", rows.span(0, 0), 1);
+        CHECK.due("18 its begin", rows.span(0, 1), 1);
+        CHECK.due("18 its end", rows.span(0, 2), 91);
+        CHECK.due("19 one", rows.count(4), 1);
     }
 
     /** "LENGTH * share / 100", downward. */
@@ -889,6 +909,51 @@ public final class PerformanceEdgesTest {
         CHECK.due("18 PERFORMED now", rows.span(1, 0), 1);
         CHECK.due("18 PERFORMED now", rows.span(1, 1), 500);
         CHECK.due("18 PERFORMED now", rows.span(1, 2), 520);
+    }
+
+    private static void span(String what, StyleRows rows, int note, int howMany, int begin, int end) {
+        CHECK.due("18 " + what + ", how many", rows.span(note, 0), howMany);
+        CHECK.due("18 " + what + ", the first begins", rows.span(note, 1), begin);
+        CHECK.due("18 " + what + ", the last ends", rows.span(note, 2), end);
+    }
+
+    /** "1 where the first begins, 2 where the last ends", of the first in order, of the last, of one between. */
+    private static void spanOfMany() {
+        StyleRows rows = new StyleRows(0);
+        rows.note(0, 100, 100, 60, HELD | LEAN | TURN);
+        rows.note(0, 120, 10, 40, HELD);
+        rows.perform();
+        span("the last in order ends last", rows, 0, 4, 100, 200);
+        span("another NOTE between", rows, 1, 1, 120, 130);
+        StyleRows back = styled("lean 20;");
+        back.note(0, 20, 60, 60, HELD | LEAN);
+        back.arc(20, 60, -400);
+        back.perform();
+        span("the first in order ends last", back, 0, 2, -360, 80);
+        StyleRows middle = new StyleRows(0);
+        middle.arc(0, 22, 15);
+        middle.note(0, 1, 30, 15, HELD | TURN);
+        middle.perform();
+        span("one between ends last", middle, 0, 3, 3, 31);
+    }
+
+    /** NONE is -1, which an end or a beginning may be, too; all may be below it. */
+    private static void spanBelowNought() {
+        int[][] want = {{-42, -1, 8}, {-51, -9, -1}, {-53, -11, -3}, {-400, -344, -343}};
+        for (int[] w : want) {
+            StyleRows rows = new StyleRows(0);
+            rows.arc(0, 100, w[0]);
+            rows.note(0, 40, 10, 60, HELD);
+            rows.note(0, 9600, 10, 60, HELD);
+            rows.perform();
+            span("an ARC by " + w[0], rows, 0, 1, w[1], w[2]);
+            span("far behind that ARC", rows, 1, 1, 9600, 9610);
+        }
+        StyleRows rows = styled("lean 10;");
+        rows.arc(0, 100, -400);
+        rows.note(0, 30, 45, 60, HELD | LEAN);
+        rows.perform();
+        span("all below NONE", rows, 0, 2, -344, -225);
     }
 
     /** "UNKNOWN (no such .. what)". */

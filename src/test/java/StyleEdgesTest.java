@@ -18,6 +18,7 @@ public final class StyleEdgesTest {
         ranksInBounds();
         ranklessIsNought();
         wordsAsManyAsStandThere();
+        wordsLetterByLetter();
         numbersAsManyAsStandThere();
         blanksBetweenOrNot();
         everyByteAlone();
@@ -273,6 +274,25 @@ public final class StyleEdgesTest {
         reads("a word less", "held 1 ran 1;", 7);
         reads("a word of 392 letters", many("held", 98) + " 1;", 0);
         reads("all close", "voice3held1rank9;", NO_FAULT);
+    }
+
+    /** A word with another letter, at each of its places, is no word of a RULE. */
+    private static void wordsLetterByLetter() {
+        for (String name : Names.WORDS) {
+            for (int i = 0; i < name.length(); i++) {
+                reads("another letter,", another(name, i) + " 1;", 0);
+            }
+        }
+        for (int i = 0; i < 5; i++) {
+            reads("another letter,", another("voice", i) + " 1 held 1;", 0);
+        }
+        for (int i = 0; i < 4; i++) {
+            reads("another letter,", "held 1 " + another("rank", i) + " 1;", 7);
+        }
+    }
+
+    private static String another(String word, int place) {
+        return word.substring(0, place) + "x" + word.substring(place + 1);
     }
 
     /** "NUMBERS digits likewise". */
